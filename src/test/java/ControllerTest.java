@@ -21,6 +21,7 @@ public final class ControllerTest {
         yaw();
         pressureFollowsTheDemand();
         lockedTicks();
+        farAway();
         Check.end();
     }
 
@@ -386,5 +387,17 @@ public final class ControllerTest {
         }
         Check.same("some ticks were locked", 1, Check.number(locked > 100));
         Check.due("the car has stopped", 0, () -> x.car(0));
+    }
+
+    // The longest way that 512 calls can go: it must still be a position.
+    private static void farAway() {
+        AntilockBrakes x = new AntilockBrakes();
+        x.setSpeed(60000);
+        for (int i = 0; i < 508; i++) {
+            x.stop();
+        }
+        Check.due("X", 508L * 5000 * 600, () -> x.car(1));
+        Check.due("no start is left for a segment", Check.ARGUMENT, () -> x.addSegment(100000000, 0, 0));
+        Check.due("the first segment is still the present one", 0, () -> x.segment(0, 0));
     }
 }
