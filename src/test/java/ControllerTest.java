@@ -162,6 +162,12 @@ public final class ControllerTest {
         x.run(100);
         Check.due("R ends at 0", 0, () -> x.car(4));
         Check.due("E is 0 then", 0, () -> x.wheel(0, 10));
+        x.repair();
+        x.setFault(2, true);
+        x.setSpeed(121);
+        x.run(1);
+        Check.due("R of 1", 1, () -> x.car(4));
+        Check.due("E is 1000 then", 1000, () -> x.wheel(0, 10));
     }
 
     private static void acceleration() {
