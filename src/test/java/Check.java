@@ -9,6 +9,7 @@ final class Check {
     static final long INDEX = Long.MIN_VALUE + 3;
 
     private static int wrong = 0;
+    private static String sentence = "";
 
     private Check() {
     }
@@ -39,11 +40,27 @@ final class Check {
         same(what, want, of(call));
     }
 
+    /** The sentence of the document that the checks after this call test. */
+    static void sentence(String text) {
+        sentence = "\"" + text + "\": ";
+    }
+
     static void same(String what, long want, long got) {
         if (got != want) {
             wrong++;
-            System.out.println(what + " answered " + text(got) + ", due is " + text(want));
+            System.out.println(sentence + what + " answered " + text(got) + ", due is " + text(want));
         }
+    }
+
+    /** A call that is refused, and that leaves the state as it was, the undo stack included. */
+    static void refused(String what, long exception, AntilockBrakes x, Call call) {
+        long before = x.digest();
+        due(what, exception, call);
+        due(what + " changes nothing: digest()", before, x::digest);
+    }
+
+    static void yes(String what, boolean holds) {
+        same(what, 1, number(holds));
     }
 
     private static String text(long answer) {

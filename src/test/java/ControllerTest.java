@@ -386,12 +386,13 @@ public final class ControllerTest {
         x.setOn(false);
         x.setDemand(2000);
         long locked = 0;
-        for (int i = 0; i < 400; i++) {
-            x.run(1);
-            locked += x.wheel(2, 0) == 0 && x.car(0) > 1400 ? 1 : 0;
+        for (int i = 0; i < 160; i++) {
+            int speed = x.run(1);
+            locked += x.wheel(2, 0) == 0 && speed > 1400 ? 1 : 0;
             Check.due("locked ticks", locked, () -> x.wheel(2, 6));
         }
         Check.same("some ticks were locked", 1, Check.number(locked > 100));
+        x.stop();
         Check.due("the car has stopped", 0, () -> x.car(0));
     }
 

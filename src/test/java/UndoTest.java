@@ -153,7 +153,7 @@ public final class UndoTest {
             each.setSpeed(25000);
             each.setDemand(1800);
         }
-        for (int i = 0; i < 120; i++) {
+        for (int i = 0; i < 50; i++) {
             x.run(3);
             x.run(100);
             x.setSpeed(100);
