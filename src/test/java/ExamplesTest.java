@@ -1,4 +1,4 @@
-/** The four examples of the document. */
+/** The four examples of the document, and the one of README.md. */
 public final class ExamplesTest {
     private ExamplesTest() {
     }
@@ -8,6 +8,7 @@ public final class ExamplesTest {
         ice();
         faultySensor();
         planAndExceptions();
+        readme();
         Check.end();
     }
 
@@ -68,5 +69,22 @@ public final class ExamplesTest {
         Check.due("4: planned", 0, x::planned);
         Check.due("4: plan(0, 1)", Check.ARGUMENT, () -> x.plan(0, 1));
         Check.due("4: run(1001)", Check.ARGUMENT, () -> x.run(1001));
+    }
+
+    private static void readme() {
+        AntilockBrakes car = new AntilockBrakes();
+        Check.due("README: addSegment, ice", 1, () -> car.addSegment(0, AntilockBrakes.ICE, AntilockBrakes.ICE));
+        Check.due("README: addSegment", 2, () -> car.addSegment(30000, AntilockBrakes.DRY, AntilockBrakes.WET));
+        Check.due("README: setSpeed", 0, () -> car.setSpeed(20000));
+        Check.due("README: setDemand", 0, () -> car.setDemand(1500));
+        Check.due("README: run", 19564, () -> car.run(40));
+        Check.due("README: wheel(0, 2)", AntilockBrakes.BUILD, () -> car.wheel(0, 2));
+        Check.due("README: event(0, 0)", 11, () -> car.event(0, 0));
+        Check.due("README: stop", 456, car::stop);
+        Check.due("README: car(1)", 60912, () -> car.car(1));
+        Check.due("README: undo", 2, car::undo);
+        Check.due("README: car(0)", 19564, () -> car.car(0));
+        Check.due("README: stopDistance, on", 177945, () -> car.stopDistance(20000, 22, 1500, true));
+        Check.due("README: stopDistance, off", 221229, () -> car.stopDistance(20000, 22, 1500, false));
     }
 }

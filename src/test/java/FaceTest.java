@@ -7,15 +7,23 @@ import java.util.Map;
 import java.util.Set;
 import java.util.TreeMap;
 import java.util.TreeSet;
+import java.util.stream.Collectors;
 
 /** The public face of the document, and what LANGUAGE.md says of members. */
 public final class FaceTest {
+    private static final String ARGUMENT = " throws IllegalArgumentException";
+    private static final String ARGUMENT_STATE = " throws IllegalArgumentException, IllegalStateException";
+    private static final String INDEX = " throws IndexOutOfBoundsException";
+    private static final String INDEX_ARGUMENT = " throws IndexOutOfBoundsException, IllegalArgumentException";
     private static final Set<String> METHODS = Set.of(
-            "int setSpeed(int)", "int addSegment(int, int, int)", "int setDemand(int)", "int plan(int, int)",
-            "boolean setFault(int, boolean)", "boolean setOn(boolean)", "int repair()", "int run(int)",
-            "int stop()", "int stopDistance(int, int, int, boolean)", "int car(int)", "int wheel(int, int)",
-            "int friction(int)", "int frictionFor(int, int)", "int segments()", "int segment(int, int)",
-            "int planned()", "int events()", "int event(int, int)", "int undo()", "long digest()");
+            "int setSpeed(int)" + ARGUMENT, "int addSegment(int, int, int)" + ARGUMENT_STATE,
+            "int setDemand(int)" + ARGUMENT, "int plan(int, int)" + ARGUMENT_STATE,
+            "boolean setFault(int, boolean)" + INDEX, "boolean setOn(boolean)", "int repair()",
+            "int run(int)" + ARGUMENT, "int stop()", "int stopDistance(int, int, int, boolean)" + ARGUMENT,
+            "int car(int)" + ARGUMENT, "int wheel(int, int)" + INDEX_ARGUMENT, "int friction(int)" + INDEX,
+            "int frictionFor(int, int)" + ARGUMENT, "int segments()", "int segment(int, int)" + INDEX_ARGUMENT,
+            "int planned()", "int events()", "int event(int, int)" + INDEX_ARGUMENT,
+            "int undo() throws IllegalStateException", "long digest()");
     private static final Map<String, Integer> CONSTANTS = Map.ofEntries(
             Map.entry("NONE", -1), Map.entry("DRY", 0), Map.entry("WET", 1), Map.entry("ICE", 2),
             Map.entry("NORMAL", 0), Map.entry("HOLD", 1), Map.entry("DUMP", 2), Map.entry("RECOVER", 3),
@@ -54,9 +62,13 @@ public final class FaceTest {
     }
 
     private static String signature(Method method) {
-        String parameters = Arrays.toString(method.getParameterTypes());
-        return method.getReturnType() + " " + method.getName() + "("
-                + parameters.substring(1, parameters.length() - 1) + ")";
+        String exceptions = names(method.getExceptionTypes());
+        return method.getReturnType() + " " + method.getName() + "(" + names(method.getParameterTypes()) + ")"
+                + (exceptions.isEmpty() ? "" : " throws " + exceptions);
+    }
+
+    private static String names(Class<?>[] kinds) {
+        return Arrays.stream(kinds).map(Class::getSimpleName).collect(Collectors.joining(", "));
     }
 
     private static void notOfTheFace(Method method) {
